@@ -1,4 +1,3 @@
-import java.util.Arrays;
 import java.util.NoSuchElementException;
 
 /** A hall of tapes; shared/DOC.md says, promise by promise, what each call answers. */
@@ -1451,8 +1450,8 @@ public final class SpoolHall {
         private final int[] turn = new int[MOST_ASKED];
         private final int[] row = new int[MOST_ASKED];
         private final int[] ways = new int[MOST_ASKED * MOST_ASKED];
-        /** Least times by set and last one of it; made when first asked for, as few halls ever do. */
-        private int[] table;
+        /** Least times by set and last one of it; it grows when that is asked for, as few halls ever do. */
+        private int[] table = new int[0];
 
         Orders(Plan plan) {
             this.plan = plan;
@@ -1529,18 +1528,19 @@ public final class SpoolHall {
                 return 0;
             }
             int sets = 1 << count;
-            prepareTable(sets * count);
+            if (table.length < sets * count) {
+                table = new int[sets * count];
+            }
             int blocksOfAll = 0;
             for (int i = 0; i < count; i++) {
                 blocksOfAll += blocks[i];
-                table[(1 << i) * count + i] = plan.seekTime(head, start[i]);
                 int last = start[i] + blocks[i] - 1;
                 for (int j = 0; j < count; j++) {
                     ways[i * count + j] = plan.seekTime(last, start[j]);
                 }
             }
             for (int set = 1; set < sets; set++) {
-                goOnFrom(set);
+                fillTable(set);
             }
             int least = FAR;
             for (int last = 0; last < count; last++) {
@@ -1549,25 +1549,23 @@ public final class SpoolHall {
             return least + blocksOfAll;
         }
 
-        private void prepareTable(int cells) {
-            if (table == null || table.length < cells) {
-                table = new int[cells];
-            }
-            Arrays.fill(table, 0, cells, FAR);
-        }
-
-        private void goOnFrom(int set) {
+        private void fillTable(int set) {
             for (int last = 0; last < count; last++) {
-                int time = table[set * count + last];
-                if (time < FAR) {
-                    for (int next = 0; next < count; next++) {
-                        if ((set >> next & 1) == 0) {
-                            int cell = (set | 1 << next) * count + next;
-                            table[cell] = Math.min(table[cell], time + ways[last * count + next]);
-                        }
-                    }
+                if ((set >> last & 1) == 1) {
+                    int rest = set ^ 1 << last;
+                    table[set * count + last] = rest == 0 ? plan.seekTime(head, start[last]) : leastBehind(rest, last);
                 }
             }
+        }
+
+        private int leastBehind(int set, int next) {
+            int least = FAR;
+            for (int last = 0; last < count; last++) {
+                if ((set >> last & 1) == 1) {
+                    least = Math.min(least, table[set * count + last] + ways[last * count + next]);
+                }
+            }
+            return least;
         }
     }
 

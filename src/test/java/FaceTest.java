@@ -39,7 +39,8 @@ public final class FaceTest {
         }
         check.due("methods are the document's: " + seen, seen.equals(due), true);
         for (Method method : hidden) {
-            check.due("private " + method.getName() + " has a name of the face", publicNames.contains(method.getName()), false);
+            String name = method.getName();
+            check.due("private " + name + " has a name of the face", publicNames.contains(name), false);
         }
         for (Field field : SpoolHall.class.getDeclaredFields()) {
             boolean constant = field.getName().equals("NONE") || field.getName().equals("HIDDEN");

@@ -58,7 +58,6 @@ public final class SpoolHall {
 
     private static final int RULES_CLAUSE = 0;
     private static final int TAPE_CLAUSE = 1;
-    private static final int FILE_CLAUSE = 2;
     private static final String CLAUSE_LETTERS = "stf";
 
     /** Items of all clauses in one row, so that one table bounds them; no letter stands in it twice. */
@@ -635,7 +634,6 @@ public final class SpoolHall {
                 }
                 at++;
             }
-            plan.layOut();
             return plan.tapes > 0 && plan.tapes <= plan.rules[SLOTS] ? NONE : bytes.length;
         }
 

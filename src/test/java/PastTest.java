@@ -12,6 +12,7 @@ public final class PastTest {
         promise26();
         promise27();
         promise27Log();
+        promise27LongLog();
         promise28();
         promise42And43();
         promise44();
@@ -177,6 +178,22 @@ public final class PastTest {
         check.due("log(49, 1)", x.log(49, 1), 1);
         check.due("log(50, 1)", x.log(50, 1), HIDDEN);
         check.due("time", x.most(0), 50 * 51 / 2);
+    }
+
+    /** What undoing brings back to the log is still told, however long it went on. */
+    private static void promise27LongLog() {
+        SpoolHall x = Check.hall("t");
+        for (int i = 0; i < 291; i++) {
+            x.pause(i % 97 + 1);
+        }
+        for (int i = 1; i <= 40; i++) {
+            x.undo();
+        }
+        check.due("count(3)", x.count(3), 60);
+        for (int i = 0; i < 60; i++) {
+            check.due("log(" + i + ", 1)", x.log(i, 1), (250 - i) % 97 + 1);
+        }
+        check.due("log(60, 1)", x.log(60, 1), HIDDEN);
     }
 
     private static void promise28() {

@@ -56,7 +56,13 @@ public final class TextsTest {
         check.due("nothing came", x.count(2), 225);
         check.due("feed of 15", x.feed(-1, -1, -1, 0x01020300, 0), 240);
         check.due("feed of none at 240", x.feed(0, 0, 0, 0, 0), 240);
-        check.due("feed of one at 240", x.feed(0, 0, 1, 0, 0), NONE);
+        int[] one = new int[5];
+        for (int i = 0; i < 5; i++) {
+            one[i] = 1;
+            check.due("feed of one at 240", x.feed(one[0], one[1], one[2], one[3], one[4]), NONE);
+            one[i] = 0;
+        }
+        check.due("nothing came", x.count(2), 240);
     }
 
     private static void promise3() {
@@ -120,6 +126,9 @@ public final class TextsTest {
         fault("t;f b1t7b", 0, 8);
         fault("t" + (char) 233, 0, 1);
         fault(" t k 1 u 2 ; f b 3 ", 0, NONE);
+        fault(" ".repeat(239) + "t", 0, NONE);
+        fault("t" + " ".repeat(238) + ";", 0, 240);
+        fault("t" + " ".repeat(238) + "t", 0, 239);
     }
 
     private static void faultsOfNumbers() {
@@ -254,10 +263,15 @@ public final class TextsTest {
             }
         }
         check.due("step(0, 0, 0)", x.step(0, 0, 0), 10);
+        Check.tell(x, "s;".repeat(15) + "w3,4", 1);
+        check.due("step(2, 15, 0)", x.step(2, 15, 0), 2);
+        check.due("step(2, 15, 1)", x.step(2, 15, 1), 3);
+        check.due("step(2, 15, 2)", x.step(2, 15, 2), 4);
+        check.due("step(2, 16, 0)", x.step(2, 16, 0), HIDDEN);
         check.due("step(0, 1, 0)", x.step(0, 1, 0), HIDDEN);
         check.due("step(1, 11, 0)", x.step(1, 11, 0), HIDDEN);
         check.due("step(1, -1, 0)", x.step(1, -1, 0), HIDDEN);
-        check.due("step(2, 0, 0)", x.step(2, 0, 0), HIDDEN);
+        check.due("step(3, 0, 0)", x.step(3, 0, 0), HIDDEN);
         check.due("step(-1, 0, 0)", x.step(-1, 0, 0), HIDDEN);
         check.due("step(1, 0, 3)", x.step(1, 0, 3), HIDDEN);
         check.due("step(1, 0, -1)", x.step(1, 0, -1), HIDDEN);

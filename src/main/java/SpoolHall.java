@@ -1125,6 +1125,7 @@ public final class SpoolHall {
 
         private int dropFile(int file) {
             home[file] = NONE;
+            known[file] = 0;
             turn[file] = 0;
             return blocks[file];
         }
@@ -1361,13 +1362,13 @@ public final class SpoolHall {
             return files - filesOn(NONE);
         }
 
-        /** A dropped file stays known or not, as nothing tells otherwise; yet it is gone, and not counted. */
+        /** Dropping a file makes it unknown, so none that is gone is counted. */
         int knownFiles() {
-            int there = 0;
+            int sum = 0;
             for (int file = 0; file < files; file++) {
-                there += home[file] == NONE ? 0 : known[file];
+                sum += known[file];
             }
-            return there;
+            return sum;
         }
 
         int mendedBlocks() {

@@ -164,12 +164,42 @@ public final class ActsTest {
         check.due("end stays", x.tape(1, 3), 4);
         check.due("files there", x.most(4), 3);
         check.due("known", x.most(5), 3);
+        check.due("one that is gone is not known", x.file(1, 3), 0);
         check.due("drop(1) again", x.drop(1), NONE);
         check.due("drop(4)", x.drop(4), NONE);
         check.due("drop(-1)", x.drop(-1), NONE);
         statuses(x, 3, 0, 0, 0);
         x.lose();
         check.due("drop of one not known", x.drop(2), 3);
+        check.due("undo()", x.undo(), 3);
+        check.due("not known, as ahead of it", x.file(2, 3), 0);
+        droppedByScriptsAndYears();
+    }
+
+    private static void droppedByScriptsAndYears() {
+        SpoolHall x = Check.hall(HALL);
+        Check.tell(x, "d0", 1);
+        x.run(0, 0);
+        check.due("a run of a script leaves it known", x.file(0, 3), 1);
+        x.image();
+        x.perform(0);
+        check.due("dropped by a script", x.file(0, 3), 0);
+        x.back();
+        check.due("known again", x.file(0, 3), 1);
+        int gone = 0;
+        for (int seed = 0; seed < 9; seed++) {
+            SpoolHall y = Check.hall(HALL);
+            y.years(40, seed);
+            int files = y.count(5);
+            for (int file = 0; file < files; file++) {
+                if (y.file(file, 0) == NONE) {
+                    gone++;
+                    check.due("dropped in years, file(" + file + ", 3)", y.file(file, 3), 0);
+                }
+            }
+            check.due("known are all that are there", y.most(5), y.most(4));
+        }
+        check.due("some were dropped", gone > 0, true);
     }
 
     private static void promise18() {

@@ -74,6 +74,16 @@ public final class HallTest {
         x.ask(3);
         x.ask(2);
         file(x, 2, 0, 2, 3, 1, 2);
+        x.drop(3);
+        file(x, 3, NONE, HIDDEN, HIDDEN, 0, 0);
+        x.scan(1);
+        file(x, 3, NONE, HIDDEN, HIDDEN, 0, 0);
+        x.copy(1, 2);
+        file(x, 3, NONE, HIDDEN, HIDDEN, 0, 0);
+        x.undo();
+        x.undo();
+        x.undo();
+        file(x, 3, 1, 3, 1, 1, 1);
         x.lose();
         file(x, 2, 0, 2, 3, 0, 0);
         x.drop(2);

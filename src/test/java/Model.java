@@ -178,7 +178,7 @@ final class Model {
         int known() {
             int n = 0;
             for (Item f : files) {
-                n += f.known && f.tape != NONE ? 1 : 0;
+                n += f.known ? 1 : 0;
             }
             return n;
         }
@@ -367,6 +367,7 @@ final class Model {
                 return add(a, b).number;
             } else if (sort == 3) {
                 files.get(a).tape = NONE;
+                files.get(a).known = false;
                 files.get(a).turn = 0;
                 return files.get(a).blocks;
             } else if (sort == 4) {

@@ -6,16 +6,22 @@ final class Check {
     static final int HIDDEN = SpoolHall.HIDDEN;
 
     private final String test;
+    private String remark = "";
     private int wrong;
 
     Check(String test) {
         this.test = test;
     }
 
+    /** What the answers that follow are due for. */
+    void under(String promise) {
+        remark = promise.isEmpty() ? "" : promise + ": ";
+    }
+
     void due(String call, long got, long want) {
         if (got != want) {
             wrong++;
-            System.out.println(test + ": " + call + " answered " + got + ", due is " + want);
+            System.out.println(test + ": " + remark + call + " answered " + got + ", due is " + want);
         }
     }
 

@@ -370,8 +370,8 @@ public final class HallEdgesTest {
 
     @Edge(promise = 13, says = "NONE: no such ones.")
     static void noSuchPaths(Check check) {
-        int[][] none = {{-1, 0, 0}, {5, 0, 0}, {3, 0, 0}, {LOW, 0, 0}, {HIGH, 0, 0}, {0, -1, 0}, {1, -1, 0}, {0, 3, 0}, {2, 4, 1},
-            {4, 9, 0}, {0, LOW, 0}, {0, HIGH, 0}, {0, 0, -1}, {0, 0, 2}, {0, 0, LOW}, {0, 0, HIGH}};
+        int[][] none = {{-1, 0, 0}, {5, 0, 0}, {3, 0, 0}, {LOW, 0, 0}, {HIGH, 0, 0}, {0, -1, 0}, {1, -1, 0}, {0, 3, 0},
+            {2, 4, 1}, {4, 9, 0}, {0, LOW, 0}, {0, HIGH, 0}, {0, 0, -1}, {0, 0, 2}, {0, 0, LOW}, {0, 0, HIGH}};
         for (int[] at : none) {
             refused(check, "path(" + at[0] + ", " + at[1] + ", " + at[2] + ")", x -> x.path(at[0], at[1], at[2]), NONE);
         }

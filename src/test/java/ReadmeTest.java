@@ -186,7 +186,7 @@ public final class ReadmeTest {
             check.due("parameters of " + row[0], parametersIn(row[0]), method.getParameterCount());
             SpoolHall x = new SpoolHall();
             Check.feed(x, "t".repeat(240));
-            String due = row[2].replace("NONE", "" + NONE).replace("HIDDEN", "" + Check.HIDDEN);
+            String due = row[2].split(":")[0].replace("NONE", "" + NONE).replace("HIDDEN", "" + Check.HIDDEN);
             String got = String.valueOf(answer(x, method, allOf(method, -1)));
             check.due(row[0] + " refused answers " + got + ", is " + due, got.equals(due), true);
         }

@@ -1,17 +1,9 @@
-import java.util.function.ToIntFunction;
-
 /** One test for each sentence of the promises that names no boundary case; for those that do see the EdgesTests. */
 public final class AnswersTest {
     private static final int NONE = Check.NONE;
 
     public static void main(String[] args) {
         Edges.runAll(AnswersTest.class);
-    }
-
-    private static void rows(Check check, String call, ToIntFunction<Integer> told, int... due) {
-        for (int i = 0; i < due.length; i++) {
-            check.due(call + " of " + i, told.applyAsInt(i), due[i]);
-        }
     }
 
     @Edge(promise = 7, says = "Of a TAPE: 0 LABEL, 1 PLACE, 2 HEAD (NONE: in its SLOT), 3 END, 4 WEAR, 5 MENDED, "
@@ -25,8 +17,8 @@ public final class AnswersTest {
         x.ask(1);
         x.ask(4);
         x.pause(7);
-        rows(check, "in a drive", what -> x.tape(1, what), 42, 8, 9, 10, 5, 20, 3, 6, 4, 2, 7);
-        rows(check, "in its slot", what -> x.tape(2, what), 53, 2, NONE, 0, 6, 0, 0, 0, 0, 0, NONE);
+        check.rows("in a drive", what -> x.tape(1, what), 42, 8, 9, 10, 5, 20, 3, 6, 4, 2, 7);
+        check.rows("in its slot", what -> x.tape(2, what), 53, 2, NONE, 0, 6, 0, 0, 0, 0, 0, NONE);
     }
 
     @Edge(promise = 8, says = "Of a FILE: 0 TAPE (NONE: DROPPED), 1 START, 2 BLOCKS, 3 whether KNOWN (1, 0), "
@@ -35,10 +27,10 @@ public final class AnswersTest {
         SpoolHall x = Check.hall("t;t;t;t;f;ft3b7;ft3b5");
         x.ask(0);
         x.ask(2);
-        rows(check, "asked for", what -> x.file(2, what), 3, 7, 5, 1, 2);
-        rows(check, "not asked for", what -> x.file(1, what), 3, 0, 7, 1, 0);
+        check.rows("asked for", what -> x.file(2, what), 3, 7, 5, 1, 2);
+        check.rows("not asked for", what -> x.file(1, what), 3, 0, 7, 1, 0);
         x.lose();
-        rows(check, "not known", what -> x.file(2, what), 3, 7, 5, 0, 0);
+        check.rows("not known", what -> x.file(2, what), 3, 7, 5, 0, 0);
         x.drop(2);
         check.due("dropped", x.file(2, 0), NONE);
     }
@@ -48,9 +40,9 @@ public final class AnswersTest {
         SpoolHall x = Check.hall("sd3;t;t;t;t;t");
         x.mount(4);
         x.mount(2);
-        rows(check, "drive", x::drive, 4, 2, NONE);
+        check.rows("drive", x::drive, 4, 2, NONE);
         x.unmount(4);
-        rows(check, "drive", x::drive, NONE, 2, NONE);
+        check.rows("drive", x::drive, NONE, 2, NONE);
     }
 
     @Edge(promise = 11, says = "How long the ARM goes from one PLACE to another one.")
@@ -78,7 +70,7 @@ public final class AnswersTest {
         SpoolHall x = Check.hall("t;f;f;f");
         check.due("ask(2)", x.ask(2), 1);
         check.due("ask(0)", x.ask(0), 2);
-        rows(check, "turn", file -> x.file(file, 4), 2, 0, 1);
+        check.rows("turn", file -> x.file(file, 4), 2, 0, 1);
     }
 
     @Edge(promise = 15, says = "SERVED: the TAPE.")
@@ -96,7 +88,7 @@ public final class AnswersTest {
         check.due("write(1, 5)", x.write(1, 5), 2);
         x.drop(2);
         check.due("write(0, 5)", x.write(0, 5), 3);
-        rows(check, "tape", file -> x.file(file, 0), 0, 0, NONE, 0);
+        check.rows("tape", file -> x.file(file, 0), 0, 0, NONE, 0);
     }
 
     @Edge(promise = 23, says = "A PAUSE: how many are UNMOUNTED.")
@@ -131,7 +123,7 @@ public final class AnswersTest {
         x.serve();
         x.unmount(0);
         x.write(0, 4);
-        rows(check, "status", x::status, 4, 3, 2, 1, NONE);
+        check.rows("status", x::status, 4, 3, 2, 1, NONE);
     }
 
     @Edge(promise = 28, says = "The LOG, the latest (i 0), the one ahead of it (1) ..: 0 sort, 1 number, 2 TIME it took.")
@@ -141,10 +133,10 @@ public final class AnswersTest {
         x.pause(40);
         x.serve();
         x.unmount(2);
-        rows(check, "log(0, ..)", what -> x.log(0, what), 5, 2, 2 + 3 + 6);
-        rows(check, "log(1, ..)", what -> x.log(1, what), 1, 2, 2 + 6 + 3 + 3);
-        rows(check, "log(2, ..)", what -> x.log(2, what), 9, 40, 40);
-        rows(check, "log(3, ..)", what -> x.log(3, what), 0, 1, 0);
+        check.rows("log(0, ..)", what -> x.log(0, what), 5, 2, 2 + 3 + 6);
+        check.rows("log(1, ..)", what -> x.log(1, what), 1, 2, 2 + 6 + 3 + 3);
+        check.rows("log(2, ..)", what -> x.log(2, what), 9, 40, 40);
+        check.rows("log(3, ..)", what -> x.log(3, what), 0, 1, 0);
     }
 
     @Edge(promise = 29, says = "TAKES of an ORDER (0 .. 2; 0, if none of its FILES is ASKED for).")
@@ -152,8 +144,8 @@ public final class AnswersTest {
         SpoolHall x = Check.hall("sl8w1;t;t;fb2;fb2;fb2;ft1");
         x.ask(1);
         x.ask(0);
-        rows(check, "takes(0, ..)", order -> x.takes(0, order), 2 + 1 + 2, 2 + 1 + 2, 2 + 2 + 3 + 2, NONE);
-        rows(check, "takes(1, ..)", order -> x.takes(1, order), 0, 0, 0, NONE);
+        check.rows("takes(0, ..)", order -> x.takes(0, order), 2 + 1 + 2, 2 + 1 + 2, 2 + 2 + 3 + 2, NONE);
+        check.rows("takes(1, ..)", order -> x.takes(1, order), 0, 0, 0, NONE);
     }
 
     @Edge(promise = 31, says = "ALL: TIME (0), how often one would be MOUNTED (1), how many SERVINGS (2).")
@@ -166,7 +158,7 @@ public final class AnswersTest {
         int first = 1;
         int second = 8 + 9 + 4 + 2;
         int third = 4 + 1 + 7 + 1 + 6 + 4 + 1;
-        rows(check, "all", x::all, first + second + third, 2, 3);
+        check.rows("all", x::all, first + second + third, 2, 3);
     }
 
     @Edge(promise = 32, says = "The i-th TAPE that would be SERVED. NONE: no such one.")
@@ -176,31 +168,31 @@ public final class AnswersTest {
         for (int file = 0; file < 4; file++) {
             x.ask(file);
         }
-        rows(check, "served", x::served, 1, 2, 0, NONE);
+        check.rows("served", x::served, 1, 2, 0, NONE);
     }
 
     @Edge(promise = 34, says = "TARGET. NONE: none, no such TAPE, it has no FILES.")
     static void targetOrNone(Check check) {
         SpoolHall x = Check.hall("t;tu2;tu1;f");
-        rows(check, "target", x::target, 2, NONE, NONE, NONE);
+        check.rows("target", x::target, 2, NONE, NONE, NONE);
         x.write(2, 1);
-        rows(check, "target", x::target, 1, NONE, 1);
+        check.rows("target", x::target, 1, NONE, 1);
         x.write(1, 1);
-        rows(check, "target", x::target, NONE, NONE, NONE);
+        check.rows("target", x::target, NONE, NONE, NONE);
     }
 
     @Edge(promise = 35, says = "CHEAP. NONE: none, BLOCKS not 1 .. 9.")
     static void cheapOrNone(Check check) {
         SpoolHall x = Check.hall("sl4w1a2;t;t;fb2;ft1");
-        rows(check, "cheap", x::cheap, NONE, 1, 1, 1, NONE);
+        check.rows("cheap", x::cheap, NONE, 1, 1, 1, NONE);
         x.mount(0);
-        rows(check, "cheap", x::cheap, NONE, 0, 0, 1, NONE);
+        check.rows("cheap", x::cheap, NONE, 0, 0, 1, NONE);
     }
 
     @Edge(promise = 37, says = "SHARES. NONE: no such TAPE, out of bounds.")
     static void sharesOfTapes(Check check) {
         SpoolHall x = Check.hall("t;t;fb2;ft1b5");
-        rows(check, "shares(.., 10)", tape -> x.shares(tape, 10), 2, 7, NONE);
+        check.rows("shares(.., 10)", tape -> x.shares(tape, 10), 2, 7, NONE);
         check.due("shares(0, 1000)", x.shares(0, 1000), NONE);
     }
 
@@ -209,9 +201,9 @@ public final class AnswersTest {
     static void stepsByTheirNumbers(Check check) {
         SpoolHall x = new SpoolHall();
         Check.tell(x, "x;p49;r8;l;c6,7;u5;m4;d03;w1,2;s;a20", 1);
-        rows(check, "what", i -> x.step(0, i, 0), 10, 9, 8, 7, 6, 5, 4, 3, 2, 1, 0);
-        rows(check, "first", i -> x.step(0, i, 1), NONE, 49, 8, NONE, 6, 5, 4, 3, 1, NONE, 20);
-        rows(check, "second", i -> x.step(0, i, 2), NONE, NONE, NONE, NONE, 7, NONE, NONE, NONE, 2, NONE, NONE);
+        check.rows("what", i -> x.step(0, i, 0), 10, 9, 8, 7, 6, 5, 4, 3, 2, 1, 0);
+        check.rows("first", i -> x.step(0, i, 1), NONE, 49, 8, NONE, 6, 5, 4, 3, 1, NONE, 20);
+        check.rows("second", i -> x.step(0, i, 2), NONE, NONE, NONE, NONE, 7, NONE, NONE, NONE, 2, NONE, NONE);
     }
 
     @Edge(promise = 39, says = "RUN: behind how many (0; NONE: all can be), TIME (1).")
@@ -219,8 +211,8 @@ public final class AnswersTest {
         SpoolHall x = Check.hall("t;f");
         Check.tell(x, "p5;a0;s;s", 1);
         Check.tell(x, "p5;l", 1);
-        rows(check, "run(0, ..)", what -> x.run(0, what), 3, 5 + 8 + 3 + 1);
-        rows(check, "run(1, ..)", what -> x.run(1, what), NONE, 5);
+        check.rows("run(0, ..)", what -> x.run(0, what), 3, 5 + 8 + 3 + 1);
+        check.rows("run(1, ..)", what -> x.run(1, what), NONE, 5);
     }
 
     @Edge(promise = 41, says = "TIME (0), the PLACE of the ARM (1), TAPES in DRIVES (2, bits), WEAK ones (3, bits), "
@@ -235,7 +227,7 @@ public final class AnswersTest {
         x.scan(1);
         x.ask(1);
         x.ask(4);
-        rows(check, "most", x::most, 8 + 13 + 7, 7, 6, 2, 5, 3, 2, 7, 2, 2, 4, Check.HIDDEN);
+        check.rows("most", x::most, 8 + 13 + 7, 7, 6, 2, 5, 3, 2, 7, 2, 2, 4, Check.HIDDEN);
     }
 
     @Edge(promise = 43, says = "BACK: TIME. NONE: no IMAGE of this HALL.")

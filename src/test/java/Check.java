@@ -1,4 +1,5 @@
 import java.util.NoSuchElementException;
+import java.util.function.IntUnaryOperator;
 
 /** Counts the answers that are not the ones due, and feeds texts to halls. */
 final class Check {
@@ -27,6 +28,13 @@ final class Check {
 
     void due(String call, boolean got, boolean want) {
         due(call, got ? 1 : 0, want ? 1 : 0);
+    }
+
+    /** What is told of 0, 1 .. must be the answers due, in this order. */
+    void rows(String call, IntUnaryOperator told, int... due) {
+        for (int i = 0; i < due.length; i++) {
+            due(call + " of " + i, told.applyAsInt(i), due[i]);
+        }
     }
 
     void dueThrow(SpoolHall x, int tape, int what) {

@@ -13,12 +13,6 @@ public final class TermsTest {
         Edges.runAll(TermsTest.class);
     }
 
-    private static void rows(Check check, String call, ToIntFunction<Integer> told, int... due) {
-        for (int i = 0; i < due.length; i++) {
-            check.due(call + " of " + i, told.applyAsInt(i), due[i]);
-        }
-    }
-
     // ---- part 1: texts
 
     @Edge(promise = 4, says = "A HALL is a TEXT: CLAUSES with ; between:")
@@ -172,11 +166,11 @@ public final class TermsTest {
     static void drivesBehindSlots(Check check) {
         for (int slots = 4; slots <= 10; slots++) {
             SpoolHall x = Check.hall("sd3n" + slots + ";t;t;t");
-            rows(check, "place", tape -> x.tape(tape, 1), 0, 1, 2);
+            check.rows("place", tape -> x.tape(tape, 1), 0, 1, 2);
             x.mount(2);
             x.mount(0);
             x.mount(1);
-            rows(check, "place", tape -> x.tape(tape, 1), slots + 1, slots + 2, slots);
+            check.rows("place", tape -> x.tape(tape, 1), slots + 1, slots + 2, slots);
             check.due("the arm at the last drive", x.most(1), slots + 2);
             check.due("no place behind it", x.way(0, slots + 3), NONE);
         }
@@ -360,21 +354,21 @@ public final class TermsTest {
     @Edge(promise = 8, says = "has a TAPE (NONE: it was DROPPED), START, BLOCKS; it is KNOWN or not.")
     static void whatAFileHas(Check check) {
         SpoolHall x = Check.hall("t;t;fb3;ft1b2;fb4");
-        rows(check, "file 2", what -> x.file(2, what), 0, 3, 4, 1, 0);
+        check.rows("file 2", what -> x.file(2, what), 0, 3, 4, 1, 0);
         x.lose();
-        rows(check, "file 2, not known", what -> x.file(2, what), 0, 3, 4, 0, 0);
+        check.rows("file 2, not known", what -> x.file(2, what), 0, 3, 4, 0, 0);
         x.drop(2);
-        rows(check, "file 2, dropped", what -> x.file(2, what), NONE, HIDDEN, HIDDEN, 0, 0);
-        rows(check, "file 1", what -> x.file(1, what), 1, 0, 2, 0, 0);
+        check.rows("file 2, dropped", what -> x.file(2, what), NONE, HIDDEN, HIDDEN, 0, 0);
+        check.rows("file 1", what -> x.file(1, what), 1, 0, 2, 0, 0);
     }
 
     @Edge(promise = 5, says = "FILES that are told are WRITTEN in order, each behind END of its TAPE (END is behind it then),")
     static void toldFilesInOrder(Check check) {
         SpoolHall x = Check.hall("ft1b2;fb4;ft1b3;t;fb1;t");
-        rows(check, "tape", file -> x.file(file, 0), 1, 0, 1, 0);
-        rows(check, "start", file -> x.file(file, 1), 0, 0, 2, 4);
-        rows(check, "blocks", file -> x.file(file, 2), 2, 4, 3, 1);
-        rows(check, "end", tape -> x.tape(tape, 3), 5, 5);
+        check.rows("tape", file -> x.file(file, 0), 1, 0, 1, 0);
+        check.rows("start", file -> x.file(file, 1), 0, 0, 2, 4);
+        check.rows("blocks", file -> x.file(file, 2), 2, 4, 3, 1);
+        check.rows("end", tape -> x.tape(tape, 3), 5, 5);
         check.due("the next is behind them", x.file(x.write(1, 1), 1), 5);
     }
 
@@ -387,7 +381,7 @@ public final class TermsTest {
         check.due("known", x.ask(1), 1);
         x.drop(1);
         check.due("not there", x.ask(1), NONE);
-        rows(check, "status", x::status, 1, 0, 1, 0);
+        check.rows("status", x::status, 1, 0, 1, 0);
     }
 
     @Edge(promise = 15, says = "SERVED: of the TAPES of which FILES are ASKED for that in a DRIVE with most such FILES")
@@ -419,7 +413,7 @@ public final class TermsTest {
         x.ask(3);
         x.ask(0);
         x.ask(2);
-        rows(check, "takes", order -> x.takes(0, order), 2 + 5 + 3, 2 + 5 + 3, 8 + 9 + 5);
+        check.rows("takes", order -> x.takes(0, order), 2 + 5 + 3, 2 + 5 + 3, 8 + 9 + 5);
         x.serve();
         check.due("mounted and read", x.most(0), 8 + 3 + 10);
         check.due("the head is behind the last", x.tape(0, 2), 7);
@@ -462,9 +456,9 @@ public final class TermsTest {
         SpoolHall x = Check.hall("t;t;f;ft1;f");
         x.lose();
         check.due("scan(0)", x.scan(0), 2);
-        rows(check, "known", file -> x.file(file, 3), 1, 0, 1);
+        check.rows("known", file -> x.file(file, 3), 1, 0, 1);
         check.due("scan(1)", x.scan(1), 1);
-        rows(check, "known", file -> x.file(file, 3), 1, 1, 1);
+        check.rows("known", file -> x.file(file, 3), 1, 1, 1);
     }
 
     @Edge(promise = 23, says = "whose last use (TIME as it was MOUNTED, READ or WRITTEN, behind that) "
@@ -486,7 +480,7 @@ public final class TermsTest {
     static void withoutATargetItStays(Check check) {
         SpoolHall x = Check.hall("sg1d2;tu2;tu5;t;fb2;ft1;ft2");
         check.due("rescue()", x.rescue(), NONE);
-        rows(check, "tape", file -> x.file(file, 0), 0, 1, 2);
+        check.rows("tape", file -> x.file(file, 0), 0, 1, 2);
         check.due("time", x.most(0), 0);
     }
 
@@ -514,28 +508,28 @@ public final class TermsTest {
     static void whyActsAreRefused(Check check) {
         SpoolHall x = new SpoolHall();
         x.serve();
-        rows(check, "no hall", x::status, 1, 0, 0, 0);
+        check.rows("no hall", x::status, 1, 0, 0, 0);
         Check.tell(x, "sl4w6;t;t" + ";f".repeat(14), 0);
         x.drop(14);
-        rows(check, "no such one", x::status, 2, 0, 0, 0);
+        check.rows("no such one", x::status, 2, 0, 0, 0);
         x.pause(100);
-        rows(check, "out of bounds", x::status, 2, 1, 0, 0);
+        check.rows("out of bounds", x::status, 2, 1, 0, 0);
         x.mount(0);
         x.mount(0);
-        rows(check, "it is so", x::status, 2, 1, 1, 0);
+        check.rows("it is so", x::status, 2, 1, 1, 0);
         x.copy(1, 0);
-        rows(check, "it can't be so", x::status, 2, 1, 2, 0);
+        check.rows("it can't be so", x::status, 2, 1, 2, 0);
         for (int file = 0; file < 13; file++) {
             x.ask(file);
         }
-        rows(check, "12", x::status, 2, 1, 2, 1);
+        check.rows("12", x::status, 2, 1, 2, 1);
         x.write(0, 9);
         x.write(0, 2);
-        rows(check, "no room", x::status, 2, 1, 2, 2);
+        check.rows("no room", x::status, 2, 1, 2, 2);
         for (int file = 15; file < 25; file++) {
             x.write(1, 1);
         }
-        rows(check, "24", x::status, 2, 1, 2, 3);
+        check.rows("24", x::status, 2, 1, 2, 3);
     }
 
     @Edge(promise = 28, says = "The LOG: of each ACT its sort (0 ASKED, 1 SERVED, 2 WRITTEN, 3 DROPPED, 4 MOUNTED, 5 UNMOUNTED, "
@@ -576,8 +570,8 @@ public final class TermsTest {
         x.ask(3);
         x.ask(5);
         int near = 2 + 2 + 3 + 2 + 1 + 3;
-        rows(check, "takes(0, ..)", order -> x.takes(0, order), near, near, 4 + 3 + 4 + 2 + 3 + 2);
-        rows(check, "takes(1, ..)", order -> x.takes(1, order), 9, 9, 9);
+        check.rows("takes(0, ..)", order -> x.takes(0, order), near, near, 4 + 3 + 4 + 2 + 3 + 2);
+        check.rows("takes(1, ..)", order -> x.takes(1, order), 9, 9, 9);
     }
 
     @Edge(promise = 30, says = "LEAST of a TAPE: by that of all rows into which these FILES can be put "
@@ -589,7 +583,7 @@ public final class TermsTest {
         x.ask(2);
         int rising = 5 + 1 + 1 + 3 + 2 + 3;
         int nearest = 2 + 3 + 2 + 3 + 3 + 1;
-        rows(check, "takes(0, ..)", order -> x.takes(0, order), rising, nearest, 5 + 1 + 5 + 3 + 2 + 3);
+        check.rows("takes(0, ..)", order -> x.takes(0, order), rising, nearest, 5 + 1 + 5 + 3 + 2 + 3);
         check.due("3, 1, 2", x.least(0), 2 + 3 + 3 + 1 + 1 + 3);
     }
 
@@ -610,24 +604,24 @@ public final class TermsTest {
         + "how often a TAPE would be MOUNTED by that; the i-th TAPE SERVED.")
     static void servedAgainAndAgain(Check check) {
         SpoolHall x = threeToServe();
-        rows(check, "all", x::all, FIRST + SECOND + THIRD, 3, 3);
-        rows(check, "served", x::served, 1, 0, 2, NONE);
+        check.rows("all", x::all, FIRST + SECOND + THIRD, 3, 3);
+        check.rows("served", x::served, 1, 0, 2, NONE);
         int time = 0;
         for (int i = 0; i < 3; i++) {
             check.due("served(0) now", x.served(0), x.serve());
             time = x.most(0);
             check.due("what is left takes", x.all(0), FIRST + SECOND + THIRD - time);
         }
-        rows(check, "all of nothing", x::all, 0, 0, 0);
+        check.rows("all of nothing", x::all, 0, 0, 0);
         check.due("served(0) of nothing", x.served(0), NONE);
     }
 
     @Edge(promise = 33, says = "SOON of a FILE that is ASKED for: how many SERVINGS till it is READ.")
     static void servingsTillItIsRead(Check check) {
         SpoolHall x = threeToServe();
-        rows(check, "soon", x::soon, 2, 1, 1, 3);
+        check.rows("soon", x::soon, 2, 1, 1, 3);
         x.serve();
-        rows(check, "soon behind the first", x::soon, 1, NONE, NONE, 2);
+        check.rows("soon behind the first", x::soon, 1, NONE, NONE, 2);
     }
 
     @Edge(promise = 7, says = "DEAD of a TAPE: BLOCKS ahead of END that no FILE has.")
@@ -648,9 +642,9 @@ public final class TermsTest {
     @Edge(promise = 34, says = "TARGET for a TAPE: that to which it could be COPIED with the least WEAR")
     static void targets(Check check) {
         SpoolHall x = Check.hall("t;tu7;tu3;tu5;f;ft2");
-        rows(check, "target", x::target, 3, NONE, 3, NONE);
+        check.rows("target", x::target, 3, NONE, 3, NONE);
         x.copy(0, 3);
-        rows(check, "target", x::target, NONE, NONE, 0, 0);
+        check.rows("target", x::target, NONE, NONE, 0, 0);
     }
 
     @Edge(promise = 35, says = "CHEAP for so many BLOCKS: the TAPE on which to WRITE them takes least TIME now")
@@ -671,22 +665,22 @@ public final class TermsTest {
     @Edge(promise = 13, says = "PATH of a FILE, a BLOCK of it: its SPOT, its WRAP.")
     static void pathOfAFile(Check check) {
         SpoolHall x = Check.hall("sl4w2;t;fb3;fb3");
-        rows(check, "spot", i -> x.path(1, i, 0), 3, 3, 2);
-        rows(check, "wrap", i -> x.path(1, i, 1), 0, 1, 1);
+        check.rows("spot", i -> x.path(1, i, 0), 3, 3, 2);
+        check.rows("wrap", i -> x.path(1, i, 1), 0, 1, 1);
     }
 
     @Edge(promise = 37, says = "SHARES of c (0 .. 999) by BLOCKS of FILES: of a TAPE: "
         + "c times its by those of all, cut (0: none has any).")
     static void sharesByBlocks(Check check) {
         SpoolHall x = Check.hall("t;t;t;fb3;ft1b6;fb2");
-        rows(check, "shares(.., 100)", tape -> x.shares(tape, 100), 45, 54, 0);
+        check.rows("shares(.., 100)", tape -> x.shares(tape, 100), 45, 54, 0);
         x.drop(0);
-        rows(check, "shares(.., 999)", tape -> x.shares(tape, 999), 249, 749, 0);
+        check.rows("shares(.., 999)", tape -> x.shares(tape, 999), 249, 749, 0);
         x.lose();
-        rows(check, "shares(.., 8) of those not known", tape -> x.shares(tape, 8), 2, 6, 0);
+        check.rows("shares(.., 8) of those not known", tape -> x.shares(tape, 8), 2, 6, 0);
         x.drop(1);
         x.drop(2);
-        rows(check, "shares(.., 999) of nothing", tape -> x.shares(tape, 999), 0, 0, 0);
+        check.rows("shares(.., 999) of nothing", tape -> x.shares(tape, 999), 0, 0, 0);
     }
 
     @Edge(promise = 39, says = "RUN of a SCRIPT: behind how many STEPS the first is that can't be; TIME behind these.")
@@ -706,7 +700,7 @@ public final class TermsTest {
         check.due("perform(0)", x.perform(0), 3);
         check.due("acts", x.count(4), 3);
         check.due("time", x.most(0), 5 + 8 + 3);
-        rows(check, "status", x::status, 0, 0, 0, 0);
+        check.rows("status", x::status, 0, 0, 0, 0);
         check.due("undone one by one", x.undo(), 2);
         check.due("in its slot again", x.tape(0, 1), 0);
     }
@@ -799,7 +793,7 @@ public final class TermsTest {
         x.years(30, 5);
         int acts = x.count(4);
         check.due("some were done, some not", acts > 5 && acts < 30, true);
-        rows(check, "status", x::status, 0, 0, 0, 0);
+        check.rows("status", x::status, 0, 0, 0, 0);
         for (int left = acts - 1; left > 0; left--) {
             int time = x.most(0) - x.log(0, 2);
             check.due("undo()", x.undo(), left);
